@@ -531,10 +531,8 @@ public final class JournaledFiles {
             return 0;
         }
 
+        /** The block has to be all 0 by now, since takeBlock hands it out as it is. */
         void giveBack(int b) {
-            for (int i = 0; i < BLOCK_BYTES; i++) {
-                put(b * BLOCK_BYTES + i, 0);
-            }
             mark(b, false);
         }
 
@@ -657,7 +655,7 @@ public final class JournaledFiles {
             return blocksFor(size) - blocksFor(size(inode)) <= disk.freeBlocks();
         }
 
-        /** What is cut off becomes 0, since what lies behind the size has to be 0. */
+        /** What is cut off becomes 0, since freed blocks and what lies behind the size have to be 0. */
         void resize(int inode, int size) {
             int had = size(inode);
             for (int p = size; p < had; p++) {
