@@ -8,23 +8,33 @@ final class Check {
 
     private static int checked = 0;
     private static int wrong = 0;
+    private static String about = "";
 
     private Check() {
     }
 
+    /** What is printed from now on is about the case of this name. */
+    static void about(String name) {
+        about = name + ": ";
+    }
+
+    static int checked() {
+        return checked;
+    }
+
+    static int wrong() {
+        return wrong;
+    }
+
     static void due(String what, long got, long want) {
-        checked++;
-        if (got != want) {
-            wrong++;
-            System.out.println(what + ": answered " + got + ", due is " + want);
-        }
+        due(what, Long.toString(got), Long.toString(want));
     }
 
     static void due(String what, String got, String want) {
         checked++;
         if (!want.equals(got)) {
             wrong++;
-            System.out.println(what + ": answered " + got + ", due is " + want);
+            System.out.println(about + what + ": answered " + got + ", due is " + want);
         }
     }
 
@@ -46,6 +56,18 @@ final class Check {
 
     static void fine(String what, Deed deed) {
         due(what, thrownBy(deed), "nothing");
+    }
+
+    /** The call throws what the term means, and nothing that can be seen is another than without the call. */
+    static void changesNothing(String what, String term, Trace.History history, Trace.History call) {
+        JournaledFiles x = new JournaledFiles();
+        history.happenTo(x);
+        due(what, thrownBy(() -> call.happenTo(x)), term);
+        String with = Trace.of(y -> {
+            history.happenTo(y);
+            thrownBy(() -> call.happenTo(y));
+        });
+        due(what + ", what is seen after it", with, Trace.of(history));
     }
 
     /** The bytes of THE STATE's blocks from first to last, in hexadecimal digits, a space between blocks. */
