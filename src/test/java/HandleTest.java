@@ -227,7 +227,6 @@ public final class HandleTest {
             x.remove(1);
             x.directory(1);
         }
-        Check.due("the highest generation", x.block(1, 8 + 3, false), 255);
         x.remove(1);
         Check.due("then 0", x.directory(1) == 1 ? x.stat(1, 3) : -1, 0);
     }

@@ -340,6 +340,13 @@ public final class Promise10RenameTest {
         Check.due("nine ENTRIES", x.stat(0, 4), 9);
     }
 
+    static void promise10_thePlaceThatFromsEntryLeavesServesInAFullBlock() {
+        JournaledFiles x = Given.fullDisk();
+        Check.due("eight ENTRIES", x.stat(0, 4), 8);
+        Check.fine("the eighth again", () -> x.rename(1, 9));
+        Check.due("ENTRIES", Check.blocks(x, 9, 9), "08080202030304040505060607070901");
+    }
+
     static void promise10_theBlockThatFromsEntryFreesServesTosEntry() {
         JournaledFiles x = Given.fullDiskWithADirectory();
         Check.due("nine ENTRIES", x.stat(0, 4), 9);

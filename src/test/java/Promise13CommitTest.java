@@ -102,6 +102,14 @@ public final class Promise13CommitTest {
         return x;
     }
 
+    static void promise13_aFreedBlockIsWrittenToo() {
+        JournaledFiles x = fourBlocks();
+        x.commit();
+        x.truncate(1, 0);
+        Check.due("the map, INODE 1, the freed block", x.commit(), 7);
+        Check.due("it is 0", x.block(10, 0, true), 0);
+    }
+
     static void promise13_handlesStayOpenWhereTheyStand() {
         JournaledFiles x = Given.openFile(8);
         x.read(0, 3);

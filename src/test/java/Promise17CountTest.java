@@ -82,6 +82,18 @@ public final class Promise17CountTest {
         Check.due("block 39", x.count(3), 1);
     }
 
+    static void promise17_differingByAFreedBlock() {
+        JournaledFiles x = Given.openFile(16);
+        x.commit();
+        x.truncate(1, 0);
+        Check.due("the map, INODE 1, the freed block", x.count(3), 3);
+        JournaledFiles y = Given.openFile();
+        y.truncate(1, 16);
+        y.commit();
+        y.truncate(1, 0);
+        Check.due("one of 0s alone does not", y.count(3), 2);
+    }
+
     static void promise17_writesDoneSoFar() {
         JournaledFiles x = new JournaledFiles();
         Check.due("none", x.count(4), 0);

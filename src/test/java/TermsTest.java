@@ -174,8 +174,8 @@ public final class TermsTest {
         }
     }
 
-    /** The look at the end is the object's 512th call. */
-    static void terms_aFilesGenerationAfter255Is0() {
+    /** The write at the end is the object's 512th call. */
+    static void terms_aHandleOfGeneration0IsNotStale() {
         JournaledFiles x = new JournaledFiles();
         for (int k = 1; k <= 255; k++) {
             x.directory(1);
